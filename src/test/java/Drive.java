@@ -4,9 +4,7 @@
  * never in the segment that is emptied.
  */
 final class Drive {
-    static final int FILLER_SET = 63;
-    static final long FILLER = Keys.ofSet(FILLER_SET);
-    static final int FILLER_WORDS = 11;
+    static final long FILLER = Keys.ofSet(63);
 
     private Drive() {
     }

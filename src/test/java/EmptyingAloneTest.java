@@ -103,9 +103,6 @@ public final class EmptyingAloneTest {
         x.get(low);
         x.get(high);
         x.get(K[0]);
-        Drive.fillSegments(x, 8);
-        int before = x.count(12);
-        Check.due("two of the filler", before == 11 || before == 22, true);
         Drive.fillSegments(x, 9);
         Check.due("put anew", x.count(10), 3);
         Check.due("first came first, though its set is the highest", x.flash(65, 2), (int) high);

@@ -3,8 +3,8 @@ public final class Promise06DeleteTest {
     public static void main(String[] args) {
         fromTheLog();
         fromTheSetsPage();
-        oldValueAlone();
-        bothAtOnce();
+        newestAndOldValue();
+        inTheLogWithAnothersBit();
         filterWithoutTheKey();
         othersKeepTheirMarks();
         Check.throwsState("delete closed", () -> {
@@ -45,7 +45,7 @@ public final class Promise06DeleteTest {
         Check.page("empty", x, 20);
     }
 
-    private static void oldValueAlone() {
+    private static void newestAndOldValue() {
         long[] k = Keys.ofSet(20, 2);
         TinyCache x = Drive.withSetPage(1, k);
         Drive.put(x, k[0], 2, 5);
@@ -56,7 +56,7 @@ public final class Promise06DeleteTest {
         Check.page("without the old one", x, 20, 1, 0, (int) k[1], (int) k[1] * 10);
     }
 
-    private static void bothAtOnce() {
+    private static void inTheLogWithAnothersBit() {
         long[] k = Keys.ofSet(20, 2);
         TinyCache x = Drive.withSetPage(1, k);
         long twin = Keys.twin(k[0]);
