@@ -1,10 +1,7 @@
+import java.util.function.Supplier;
+
 /** Compares answers with what is due; a test ends with end(). */
 final class Check {
-    private static final int NOTHING = 0;
-    private static final int STATE = 1;
-    private static final int ARGUMENT = 2;
-    private static final int INDEX = 3;
-    private static final int ANOTHER = 4;
     private static int wrong = 0;
 
     private Check() {
@@ -22,48 +19,51 @@ final class Check {
     }
 
     static void throwsNothing(String what, Runnable call) {
-        due(what + " throws (kind)", thrownBy(call), NOTHING);
+        due(what + " throws (kind)", thrownBy(call), Call.NOTHING);
     }
 
     static void throwsState(String what, Runnable call) {
-        due(what + " throws (kind)", thrownBy(call), STATE);
+        due(what + " throws (kind)", thrownBy(call), Call.STATE);
     }
 
     static void throwsArgument(String what, Runnable call) {
-        due(what + " throws (kind)", thrownBy(call), ARGUMENT);
+        due(what + " throws (kind)", thrownBy(call), Call.ARGUMENT);
     }
 
     static void throwsIndex(String what, Runnable call) {
-        due(what + " throws (kind)", thrownBy(call), INDEX);
+        due(what + " throws (kind)", thrownBy(call), Call.INDEX);
     }
 
-    private static int thrownBy(Runnable call) {
+    private static long thrownBy(Runnable call) {
         try {
             call.run();
-            return NOTHING;
+            return Call.NOTHING;
         } catch (RuntimeException e) {
-            // The very class is asked for: a subclass thrown by the JVM would be a fault.
-            if (e.getClass() == IllegalStateException.class) {
-                return STATE;
-            }
-            if (e.getClass() == IllegalArgumentException.class) {
-                return ARGUMENT;
-            }
-            return e.getClass() == IndexOutOfBoundsException.class ? INDEX : ANOTHER;
+            return Call.thrown(e);
         }
     }
 
     /** All thirteen counts at once. */
-    static void counts(String what, TinyCache x, int... want) {
+    static void counts(String what, Face x, int... want) {
         for (int i = 0; i < want.length; i++) {
             due(what + ": count(" + i + ")", x.count(i), want[i]);
         }
     }
 
     /** The words of a page on flash, with nothing but 0 behind them. */
-    static void page(String what, TinyCache x, int p, int... want) {
+    static void page(String what, Face x, int p, int... want) {
         for (int i = 0; i < 32; i++) {
             due(what + ": flash(" + p + ", " + i + ")", x.flash(p, i), i < want.length ? want[i] : 0);
+        }
+    }
+
+    /** All pages of flash, four of each cache that is made: more would be too many calls. */
+    static void flash(String what, Supplier<? extends Face> made, int[][] want) {
+        for (int first = 0; first < want.length; first += 4) {
+            Face x = made.get();
+            for (int p = first; p < first + 4; p++) {
+                page(what, x, p, want[p]);
+            }
         }
     }
 

@@ -14,11 +14,17 @@ public final class EmptyingAloneTest {
         putAnewLeavesNoRoom();
         putAnewOfTheSameKey();
         oldValueStaysBehindOnePutAnew();
+        putAnewAgain();
+        putAnewThenMoved();
+        gotBeforeItCame();
+        aMarkIsNotGot();
+        lastOfThePage();
+        bitOfAnotherStays();
         Check.end();
     }
 
     private static void dropped() {
-        TinyCache x = new TinyCache();
+        Counted x = new Counted();
         Drive.put(x, K[0], 8, 0);
         Drive.fill(x, 65);
         Check.due("still there", x.where(K[0]), 1);
@@ -28,7 +34,7 @@ public final class EmptyingAloneTest {
     }
 
     private static void noOldValueComesBack() {
-        TinyCache x = Drive.withSetPage(1, K[0], K[1], K[2]);
+        Counted x = Drive.withSetPage(1, K[0], K[1], K[2]);
         Drive.put(x, K[1], 2, 5);
         Drive.fillSegments(x, 18);
         Check.due("nowhere", x.get(K[1]), 0);
@@ -40,14 +46,14 @@ public final class EmptyingAloneTest {
     }
 
     private static void filterWithoutTheKey() {
-        TinyCache x = Drive.withSetPage(1, K[0], K[1]);
+        Counted x = Drive.withSetPage(1, K[0], K[1]);
         Drive.put(x, Keys.twin(K[0]), 2, 5);
         Drive.fillSegments(x, 18);
         Check.due("dropped alone", x.count(8), 1);
         Check.due("read", x.count(9), 2);
         Check.due("not written", x.count(2), 0);
         Check.due("the other is there", x.where(K[0]), 2);
-        TinyCache y = Drive.withSetPage(1, K[0], K[1]);
+        Counted y = Drive.withSetPage(1, K[0], K[1]);
         Drive.put(y, K[2], 2, 5);
         Drive.fillSegments(y, 18);
         Check.due("dropped alone", y.count(8), 1);
@@ -55,7 +61,7 @@ public final class EmptyingAloneTest {
     }
 
     private static void othersKeepTheirMarks() {
-        TinyCache x = Drive.withSetPage(8, K[0], K[1]);
+        Counted x = Drive.withSetPage(8, K[0], K[1]);
         x.get(K[0]);
         Drive.put(x, K[2], 1, 0);
         Drive.put(x, K[3], 1, 0);
@@ -75,7 +81,7 @@ public final class EmptyingAloneTest {
     }
 
     private static void putAnewOnce() {
-        TinyCache x = new TinyCache();
+        Counted x = new Counted();
         Drive.put(x, K[0], 8, 40);
         x.get(K[0]);
         Drive.fill(x, 66);
@@ -96,7 +102,7 @@ public final class EmptyingAloneTest {
     private static void putAnewInTheOrderOfTheLog() {
         long high = Keys.ofSet(40);
         long low = Keys.ofSet(4);
-        TinyCache x = new TinyCache();
+        Counted x = new Counted();
         Drive.put(x, high, 3, 0);
         Drive.put(x, low, 1, 0);
         Drive.put(x, K[0], 1, 0);
@@ -111,7 +117,7 @@ public final class EmptyingAloneTest {
     }
 
     private static void putAnewOverSeveralPages() {
-        TinyCache x = new TinyCache();
+        Counted x = new Counted();
         for (int set = 0; set < 7; set++) {
             Drive.put(x, Keys.ofSet(set), 8, set * 100);
         }
@@ -139,7 +145,7 @@ public final class EmptyingAloneTest {
     // Eight objects put anew fill four pages: what was to be put does not fit in behind
     // them, so the open page is written into the next segment, which is emptied, too.
     private static void putAnewLeavesNoRoom() {
-        TinyCache x = new TinyCache();
+        Counted x = new Counted();
         for (int set = 0; set < 10; set++) {
             Drive.put(x, Keys.ofSet(set), 8, set * 100);
         }
@@ -158,7 +164,7 @@ public final class EmptyingAloneTest {
     }
 
     private static void putAnewOfTheSameKey() {
-        TinyCache x = new TinyCache();
+        Counted x = new Counted();
         Drive.put(x, K[0], 8, 40);
         x.get(K[0]);
         Drive.fill(x, 65);
@@ -171,7 +177,7 @@ public final class EmptyingAloneTest {
     }
 
     private static void oldValueStaysBehindOnePutAnew() {
-        TinyCache x = Drive.withSetPage(1, K[0], K[1]);
+        Counted x = Drive.withSetPage(1, K[0], K[1]);
         Drive.put(x, K[0], 2, 70);
         x.get(K[0]);
         Drive.fillSegments(x, 18);
@@ -180,5 +186,81 @@ public final class EmptyingAloneTest {
         Check.due("newest", x.get(K[0]), 2);
         Check.due("newest", x.got(0), 70);
         Check.due("dropped none", x.count(8), 0);
+        Check.due("moving and the get read, nothing else", x.count(9), 2);
+        Check.due("nothing written but by moving", x.count(2), 0);
+    }
+
+    private static void putAnewAgain() {
+        Counted x = new Counted();
+        Drive.put(x, K[0], 8, 40);
+        for (int round = 1; round <= 3; round++) {
+            Check.due("there", x.get(K[0]), 8);
+            Drive.fillSegments(x, 8 * round + 1);
+            Check.due("put anew each time it was got", x.count(10), round);
+        }
+        Drive.fillSegments(x, 33);
+        Check.due("dropped when it was not", x.count(8), 1);
+        Check.due("three times in all", x.count(10), 3);
+    }
+
+    private static void putAnewThenMoved() {
+        Counted x = new Counted();
+        x.put(K[0], 8);
+        x.get(K[0]);
+        Drive.fillSegments(x, 9);
+        x.put(K[1], 8);
+        Drive.fillSegments(x, 17);
+        Check.due("it is gathered with a newer one of its set", x.count(4), 2);
+        Check.due("in the order in which they came", x.flash(SET, 2), (int) K[0]);
+        Check.due("in the order in which they came", x.flash(SET, 13), (int) K[1]);
+    }
+
+    private static void gotBeforeItCame() {
+        Counted x = new Counted();
+        x.put(K[0], 8);
+        x.get(K[0]);
+        x.put(K[0], 8);
+        Drive.fillSegments(x, 9);
+        Check.due("the older value was got, not this one", x.count(10), 0);
+        Check.due("dropped", x.count(8), 1);
+        Counted y = new Counted();
+        y.get(K[0]);
+        y.put(K[0], 8);
+        Drive.fillSegments(y, 9);
+        Check.due("nothing was got", y.count(10), 0);
+    }
+
+    private static void aMarkIsNotGot() {
+        Counted x = Drive.withSetPage(1, K[0], K[1]);
+        x.get(K[0]);
+        x.put(K[0], 2);
+        Drive.fillSegments(x, 18);
+        Check.due("the page's value was got, not this one", x.count(10), 0);
+        Check.due("dropped", x.count(8), 1);
+        Check.due("with the old value", x.where(K[0]), 0);
+        Check.due("with the old value", x.count(2), 1);
+    }
+
+    private static void lastOfThePage() {
+        Counted x = Drive.withSetPage(1, K[0], K[1]);
+        x.delete(K[1]);
+        x.put(K[0], 8);
+        Drive.fillSegments(x, 18);
+        Check.page("nothing is left", x, SET);
+        int read = x.count(9);
+        Check.due("nowhere", x.get(K[0]), 0);
+        Check.due("the filter is empty", x.count(9), read);
+    }
+
+    // Both have the same bit: it stays in the filter as long as one of them is in the page.
+    private static void bitOfAnotherStays() {
+        Counted x = Drive.withSetPage(1, K[0], Keys.twin(K[0]));
+        x.put(K[0], 8);
+        Drive.fillSegments(x, 18);
+        Check.due("written without it", x.count(2), 1);
+        int read = x.count(9);
+        Check.due("nowhere", x.get(K[0]), 0);
+        Check.due("the other's bit is there", x.count(9), read + 1);
+        Check.due("the other is there", x.where(Keys.twin(K[0])), 2);
     }
 }

@@ -1,13 +1,21 @@
 import java.math.BigInteger;
+import java.util.HashMap;
+import java.util.Map;
 
 /** Keys with sets and bits that a test asks for, by a mixing of the tests' own. */
 final class Keys {
     private static final BigInteger SIZE = BigInteger.ONE.shiftLeft(64);
+    // Tests ask for the same keys over and over, and this mixing is slow.
+    private static final Map<Long, BigInteger> MIXED = new HashMap<>();
 
     private Keys() {
     }
 
-    static BigInteger mix(long key) {
+    static BigInteger mixed(long key) {
+        return MIXED.computeIfAbsent(key, Keys::mix);
+    }
+
+    private static BigInteger mix(long key) {
         BigInteger z = BigInteger.valueOf(key).mod(SIZE);
         z = z.xor(z.shiftRight(30)).multiply(BigInteger.valueOf(-4658895280553007687L)).mod(SIZE);
         z = z.xor(z.shiftRight(27)).multiply(BigInteger.valueOf(-7723592293110705685L)).mod(SIZE);
@@ -15,11 +23,11 @@ final class Keys {
     }
 
     static int set(long key) {
-        return mix(key).shiftRight(58).intValueExact();
+        return mixed(key).shiftRight(58).intValueExact();
     }
 
     static int bit(long key) {
-        return mix(key).mod(BigInteger.valueOf(64)).intValueExact();
+        return mixed(key).mod(BigInteger.valueOf(64)).intValueExact();
     }
 
     /** The first n keys from 1 on that are in the set and have bits of their own. */
@@ -41,12 +49,43 @@ final class Keys {
         return ofSet(set, 1)[0];
     }
 
+    /** The first n keys from 1 on that are in the set, whatever their bits. */
+    static long[] manyOfSet(int set, int n) {
+        long[] keys = new long[n];
+        int have = 0;
+        for (long key = 1; have < n; key++) {
+            if (set(key) == set) {
+                keys[have] = key;
+                have++;
+            }
+        }
+        return keys;
+    }
+
+    /** One key of each set from the first to the last, in their order. */
+    static long[] ofSets(int first, int last) {
+        long[] keys = new long[last - first + 1];
+        for (int set = first; set <= last; set++) {
+            keys[set - first] = ofSet(set);
+        }
+        return keys;
+    }
+
+    /** The first key from 1 on with this set and this bit. */
+    static long ofSetAndBit(int set, int bit) {
+        return nextLike(0, set, bit);
+    }
+
     /** Another key with the same set and the same bit. */
     static long twin(long key) {
-        long other = key + 1;
-        while (set(other) != set(key) || bit(other) != bit(key)) {
-            other++;
+        return nextLike(key, set(key), bit(key));
+    }
+
+    private static long nextLike(long behind, int set, int bit) {
+        long key = behind + 1;
+        while (set(key) != set || bit(key) != bit) {
+            key++;
         }
-        return other;
+        return key;
     }
 }

@@ -11,7 +11,7 @@ import java.util.TreeMap;
  * The document once more, as near to its words as can be: pages are words, and each object
  * is read out of them. Slow, and sharing nothing with the class that is tested.
  */
-final class Model {
+final class Model implements Face {
     private static final int OPEN = -1;
 
     private static final class Place {
@@ -42,7 +42,20 @@ final class Model {
         }
     }
 
-    void put(long key, int n) {
+    @Override
+    public int word(int i, int v) {
+        refuseOutside(i, 0, 7);
+        int before = buffer[i];
+        buffer[i] = v;
+        return before;
+    }
+
+    @Override
+    public void put(long key, int n) {
+        refuseIf(closed);
+        if (n < 1 || n > 8) {
+            throw new IllegalArgumentException();
+        }
         int[] object = new int[3 + n];
         object[0] = n;
         object[1] = (int) (key >> 32);
@@ -53,7 +66,9 @@ final class Model {
         mostEmptiedByOnePut = Math.max(mostEmptiedByOnePut, emptiedByThisPut);
     }
 
-    int get(long key) {
+    @Override
+    public int get(long key) {
+        refuseIf(closed);
         Place place = index.get(key);
         found = null;
         if (place != null) {
@@ -77,23 +92,61 @@ final class Model {
         return found == null ? 0 : found.length;
     }
 
-    boolean delete(long key) {
+    @Override
+    public int got(int i) {
+        refuseOutside(i, 0, found == null ? -1 : found.length - 1);
+        return found[i];
+    }
+
+    @Override
+    public boolean delete(long key) {
+        refuseIf(closed);
         boolean was = index.remove(key) != null;
         return takeFromPage(key, 3) || was;
     }
 
-    int where(long key) {
+    @Override
+    public int setOf(long key) {
+        return Keys.set(key);
+    }
+
+    @Override
+    public int where(long key) {
+        refuseIf(closed);
         if (index.containsKey(key)) {
             return 1;
         }
         return pageHas(key) ? 2 : 0;
     }
 
-    int count(int what) {
+    @Override
+    public int flash(int p, int i) {
+        refuseOutside(p, 0, 95);
+        refuseOutside(i, 0, 31);
+        return pages[p][i];
+    }
+
+    @Override
+    public void close() {
+        refuseIf(closed);
+        closed = true;
+    }
+
+    @Override
+    public int open() {
+        refuseIf(!closed);
+        closed = false;
+        return index.size();
+    }
+
+    @Override
+    public int count(int what) {
         return what == 11 ? index.size() : what == 12 ? openWords : what < 0 || what > 12 ? -1 : counts[what];
     }
 
-    void crash() {
+    @Override
+    public void crash() {
+        refuseIf(closed);
         Model empty = new Model();
         pages = empty.pages;
         open = empty.open;
@@ -105,6 +158,18 @@ final class Model {
         counts = empty.counts;
         found = null;
         closed = true;
+    }
+
+    private static void refuseIf(boolean wrongState) {
+        if (wrongState) {
+            throw new IllegalStateException();
+        }
+    }
+
+    private static void refuseOutside(int i, int first, int last) {
+        if (i < first || i > last) {
+            throw new IndexOutOfBoundsException();
+        }
     }
 
     private void come(int[] object) {

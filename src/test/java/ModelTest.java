@@ -1,15 +1,51 @@
-/** Long runs of mixed calls on the class and on the model: all answers are the same. */
+import java.util.ArrayList;
+import java.util.List;
+
+/** Long runs of mixed calls, wrong ones too, on the class and on the model: all answers are the same. */
 public final class ModelTest {
-    private static final int RUNS = 240;
-    private static final int CALLS = 512;
+    private static final int RUNS = 480;
+    // Behind so many calls there is room for four pages of flash, word by word.
+    private static final int CALLS_BEFORE_FLASH = Counted.CALLS - 4 * 32;
     // Sums over all runs: a run that never came to something would not test it.
     private static final long[] reached = new long[11];
     private static int mostEmptiedByOnePut = 0;
     private static long seed = 20261115;
 
+    /** What a run is made of. */
+    private static final class Mix {
+        final long[] keys;
+        final int smallest;
+        final int largest;
+        final int putsOfTen = 4 + below(5);
+        final boolean crashes;
+        // Scanning runs put each key in turn and get it: many are alone and got then. Where
+        // each has a set of its own they come once, in full pages, and the first few follow.
+        final boolean scans;
+        final boolean oncePerSet;
+
+        Mix(int run) {
+            keys = keysOf(run);
+            oncePerSet = run % 6 == 4;
+            scans = run % 3 == 0 || oncePerSet;
+            crashes = run % 8 == 7;
+            int some = below(3) == 0 ? 8 : 1 + below(8);
+            largest = oncePerSet && run % 4 == 0 ? 8 : some;
+            smallest = oncePerSet && run % 4 == 0 ? 8 : 1 + below(largest);
+        }
+
+        long key(int call) {
+            int turn = oncePerSet && call / 2 >= keys.length ? below(3) : call / 2 % keys.length;
+            return keys[scans ? turn : below(keys.length)];
+        }
+
+        int length() {
+            return smallest + below(largest - smallest + 1);
+        }
+    }
+
     public static void main(String[] args) {
         for (int run = 0; run < RUNS; run++) {
-            run(run, keysOf(run));
+            run(run, new Mix(run));
         }
         for (int what = 0; what < reached.length; what++) {
             Check.due("the runs come to count " + what, reached[what] > 0, true);
@@ -66,43 +102,18 @@ public final class ModelTest {
         return all;
     }
 
-    private static void run(int run, long[] keys) {
-        TinyCache x = new TinyCache();
+    private static void run(int run, Mix mix) {
+        Counted x = new Counted();
         Model m = new Model();
-        int largest = below(3) == 0 ? 8 : 1 + below(8);
-        int smallest = 1 + below(largest);
-        int putsOfTen = 4 + below(5);
-        boolean crashes = run % 8 == 7;
-        // Scanning runs put each key in turn and get it: many are alone and got then. Where
-        // each has a set of its own they come once, in full pages, and the first few follow.
-        boolean oncePerSet = run % 6 == 4;
-        boolean scans = run % 3 == 0 || oncePerSet;
-        if (oncePerSet && run % 4 == 0) {
-            smallest = 8;
-            largest = 8;
-        }
-        for (int call = 0; call < CALLS; call++) {
-            String what = "run " + run + ", call " + call;
-            int turn = oncePerSet && call / 2 >= keys.length ? below(3) : call / 2 % keys.length;
-            long key = keys[scans ? turn : below(keys.length)];
-            int n = smallest + below(largest - smallest + 1);
-            if (m.closed) {
-                m.closed = false;
-                Check.due(what + " open", x.open(), m.index.size());
-            } else if (scans && below(50) != 0) {
-                if (call % 2 == 0) {
-                    put(x, m, key, n, call);
-                } else {
-                    get(what, x, m, key);
-                }
-            } else if (below(10) < putsOfTen) {
-                put(x, m, key, n, call);
-            } else {
-                otherCall(what, x, m, key, crashes);
+        List<Call> calls = new ArrayList<>();
+        for (int c = 0; c < Counted.CALLS; c++) {
+            Call call = nextCall(mix, m, c);
+            Check.due("run " + run + ", call " + c + " " + call, call.on(x), call.on(m));
+            if (c < CALLS_BEFORE_FLASH) {
+                calls.add(call);
             }
-            compareCounts(what, x, m);
-            if (call % 32 == 31) {
-                compareFlash(what, x, m);
+            if (c == CALLS_BEFORE_FLASH - 1) {
+                Check.flash("run " + run, () -> replayed(calls), m.pages);
             }
         }
         for (int what = 0; what < reached.length; what++) {
@@ -111,49 +122,65 @@ public final class ModelTest {
         mostEmptiedByOnePut = Math.max(mostEmptiedByOnePut, m.mostEmptiedByOnePut);
     }
 
-    private static void put(TinyCache x, Model m, long key, int n, int call) {
-        int i = below(8);
-        m.buffer[i] = call * 1000 + i;
-        x.word(i, call * 1000 + i);
-        m.put(key, n);
-        x.put(key, n);
-    }
-
-    private static void get(String what, TinyCache x, Model m, long key) {
-        int length = m.get(key);
-        Check.due(what + " get", x.get(key), length);
-        for (int i = 0; i < length; i++) {
-            Check.due(what + " got", x.got(i), m.found[i]);
+    private static Counted replayed(List<Call> calls) {
+        Counted x = new Counted();
+        for (Call call : calls) {
+            call.on(x);
         }
-        Check.throwsIndex(what + " got behind the last", () -> x.got(length));
+        return x;
     }
 
-    private static void otherCall(String what, TinyCache x, Model m, long key, boolean crashes) {
+    private static Call nextCall(Mix mix, Model m, int c) {
+        long key = mix.key(c);
+        if (m.closed) {
+            return below(3) == 0 ? Call.of(Call.Kind.OPEN) : anyCall(mix, key);
+        }
+        if (mix.scans && below(50) != 0) {
+            return c % 2 == 0 ? Call.put(key, mix.length()) : Call.of(Call.Kind.GET, key);
+        }
+        if (below(10) < mix.putsOfTen) {
+            return below(5) == 0 ? Call.word(below(8), c * 1000) : Call.put(key, mix.length());
+        }
+        return anyCall(mix, key);
+    }
+
+    /** A call with arguments that are sometimes just outside of what is allowed. */
+    private static Call anyCall(Mix mix, long key) {
         int kind = below(100);
-        if (kind < 60) {
-            get(what, x, m, key);
-        } else if (kind < 80) {
-            Check.due(what + " where", x.where(key), m.where(key));
-        } else if (kind < 95) {
-            Check.due(what + " delete", x.delete(key), m.delete(key));
-        } else if (kind < 99 || !crashes) {
-            m.closed = true;
-            x.close();
-        } else {
-            m.crash();
-            x.crash();
+        if (kind < 30) {
+            return Call.of(Call.Kind.GET, key);
         }
+        if (kind < 45) {
+            return Call.of(Call.Kind.DELETE, key);
+        }
+        if (kind < 55) {
+            return Call.of(Call.Kind.WHERE, key);
+        }
+        if (kind < 70) {
+            return Call.got(below(10) - 1);
+        }
+        if (kind < 80) {
+            return Call.count(below(15) - 1);
+        }
+        return seldomCall(mix, key);
     }
 
-    private static void compareCounts(String what, TinyCache x, Model m) {
-        for (int i = -1; i <= 13; i++) {
-            Check.due(what + " count(" + i + ")", x.count(i), m.count(i));
-        }
-    }
-
-    private static void compareFlash(String what, TinyCache x, Model m) {
-        for (int p = 0; p < 96; p++) {
-            Check.page(what, x, p, m.pages[p]);
+    private static Call seldomCall(Mix mix, long key) {
+        switch (below(8)) {
+            case 0:
+                return Call.word(below(10) - 1, below(1000));
+            case 1:
+                return Call.put(key, below(10));
+            case 2:
+                return Call.flash(below(98) - 1, below(34) - 1);
+            case 3:
+                return Call.of(Call.Kind.SET_OF, key);
+            case 4:
+                return Call.of(Call.Kind.OPEN);
+            case 5:
+                return Call.of(mix.crashes ? Call.Kind.CRASH : Call.Kind.CLOSE);
+            default:
+                return Call.of(Call.Kind.CLOSE);
         }
     }
 }

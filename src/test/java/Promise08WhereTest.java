@@ -2,7 +2,7 @@
 public final class Promise08WhereTest {
     public static void main(String[] args) {
         long[] k = Keys.ofSet(31, 4);
-        TinyCache x = Drive.withSetPage(5, k[0], k[1], k[2]);
+        Counted x = Drive.withSetPage(5, k[0], k[1], k[2]);
         int read = x.count(9);
         Check.due("set's page", x.where(k[0]), 2);
         Check.due("set's page", x.where(k[2]), 2);
@@ -15,12 +15,27 @@ public final class Promise08WhereTest {
         nothingIsMarked(k);
         nothingIsGot();
         x.close();
-        Check.throwsState("where closed", () -> x.where(k[0]));
+        for (long key : new long[] {k[0], k[1], k[3]}) {
+            Check.throwsState("where closed", () -> x.where(key));
+        }
+        nowhere(k);
         Check.end();
     }
 
+    private static void nowhere(long[] k) {
+        Counted x = Drive.withSetPage(5, k[0], k[1]);
+        x.delete(k[0]);
+        Check.due("deleted from the page", x.where(k[0]), 0);
+        x.put(k[1], 1);
+        x.delete(k[1]);
+        Check.due("deleted from the log, and the old value, too", x.where(k[1]), 0);
+        x.crash();
+        x.open();
+        Check.due("after a crash", x.where(Drive.FILLER), 0);
+    }
+
     private static void nothingIsMarked(long[] k) {
-        TinyCache x = Drive.withSetPage(8, k[0], k[1]);
+        Counted x = Drive.withSetPage(8, k[0], k[1]);
         x.where(k[0]);
         Drive.put(x, k[2], 8, 1);
         Drive.put(x, k[3], 1, 1);
@@ -30,7 +45,7 @@ public final class Promise08WhereTest {
     }
 
     private static void nothingIsGot() {
-        TinyCache x = new TinyCache();
+        Counted x = new Counted();
         long key = Keys.ofSet(31);
         Drive.put(x, key, 8, 1);
         x.where(key);

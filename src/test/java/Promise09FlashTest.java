@@ -4,12 +4,14 @@ public final class Promise09FlashTest {
         edges();
         objectsInTheirWords();
         logGoesRound();
+        firstAndLastPages();
+        keysOfBothSigns();
         shorterPageOverALongerOne();
         Check.end();
     }
 
     private static void edges() {
-        TinyCache x = new TinyCache();
+        Counted x = new Counted();
         for (int p : new int[] {0, 63, 64, 95}) {
             Check.due("first word", x.flash(p, 0), 0);
             Check.due("last word", x.flash(p, 31), 0);
@@ -18,12 +20,14 @@ public final class Promise09FlashTest {
             }
         }
         for (int p : new int[] {-1, 96, Integer.MIN_VALUE, Integer.MAX_VALUE}) {
-            Check.throwsIndex("flash(" + p + ", 0)", () -> x.flash(p, 0));
+            for (int i : new int[] {0, 31, -1, 32}) {
+                Check.throwsIndex("flash(" + p + ", " + i + ")", () -> x.flash(p, i));
+            }
         }
     }
 
     private static void objectsInTheirWords() {
-        TinyCache x = new TinyCache();
+        Counted x = new Counted();
         long key = 0x89abcdef_f1234567L;
         Drive.put(x, key, 2, -9);
         Drive.put(x, 7, 1, 3);
@@ -40,9 +44,10 @@ public final class Promise09FlashTest {
     }
 
     private static void logGoesRound() {
-        TinyCache x = new TinyCache();
+        Counted x = new Counted();
         for (int n = 0; n < 66; n++) {
-            Drive.put(x, Drive.FILLER, 8, n * 10);
+            x.word(0, n * 10);
+            Drive.fill(x, 1);
         }
         for (int p = 0; p < 32; p++) {
             Check.due("first of its page", x.flash(64 + p, 3), p * 20);
@@ -54,8 +59,43 @@ public final class Promise09FlashTest {
         Check.due("the last page is as it was", x.flash(95, 14), 630);
     }
 
+    // Both ends of the sets' pages and of the log's, each word where it belongs.
+    private static void firstAndLastPages() {
+        for (int set : new int[] {0, 62}) {
+            long[] k = Keys.ofSet(set, 2);
+            Counted x = Drive.withSetPage(8, k);
+            Check.due("first word", x.flash(set, 0), 8);
+            Check.due("last word", x.flash(set, 21), (int) k[1] * 10 + 7);
+            Check.due("behind it", x.flash(set, 22), 0);
+            Check.due("the last word of the page", x.flash(set, 31), 0);
+            Check.due("the next set's page", x.flash(set + 1, 0), 0);
+        }
+        Counted x = new Counted();
+        for (int n = 0; n < 256; n++) {
+            x.put(1, 1);
+        }
+        Check.due("the last page is open", x.flash(95, 0), 0);
+        x.word(0, 7);
+        x.put(1, 1);
+        Check.due("the last page is written", x.flash(95, 0), 1);
+        Check.due("its last object", x.flash(95, 30), 1);
+        Check.due("its last word", x.flash(95, 31), 0);
+        Check.due("a full page", x.flash(64, 28), 1);
+    }
+
+    private static void keysOfBothSigns() {
+        for (long key : new long[] {0, -1, Long.MIN_VALUE, Long.MAX_VALUE, 0x7fffffffL, 0x80000000L, -0x80000000L}) {
+            Counted x = new Counted();
+            Drive.put(x, key, 1, 3);
+            Drive.putAll(x, 8, 1, 2, 3);
+            Check.due("the high word of " + key, x.flash(64, 1), key >> 32);
+            Check.due("the low word of " + key, x.flash(64, 2), (int) key);
+            Check.due("there", x.get(key), 1);
+        }
+    }
+
     private static void shorterPageOverALongerOne() {
-        TinyCache x = new TinyCache();
+        Counted x = new Counted();
         for (int n = 1; n <= 8; n++) {
             Drive.put(x, Drive.FILLER, 1, n);
         }

@@ -1,38 +1,95 @@
 /** Promise 11: crash keeps nothing but the buffer. */
 public final class Promise11CrashTest {
+    private static final long[] K = Keys.ofSet(3, 3);
+
     public static void main(String[] args) {
-        long[] k = Keys.ofSet(3, 3);
-        TinyCache x = Drive.withSetPage(8, k[0], k[1]);
-        x.get(k[0]);
-        x.delete(k[1]);
-        x.word(0, 4711);
-        x.crash();
-        Check.throwsState("crash closed", x::crash);
-        Check.throwsState("close closed", x::close);
-        Check.throwsState("get closed", () -> x.get(k[0]));
-        isEmpty("closed", x);
-        Check.due("open()", x.open(), 0);
-        isEmpty("open", x);
-        Check.due("gone", x.get(k[0]), 0);
-        Check.due("gone", x.where(Drive.FILLER), 0);
-        Check.due("no filter: nothing read", x.count(9), 0);
-        Check.due("the buffer", x.word(0, 1), 4711);
-        beginsAgain(x, k);
+        isClosed();
+        isEmpty();
+        bufferIsKept();
+        refusedWhenClosed();
+        noFilterIsLeft();
+        beginsAgain();
         Check.end();
     }
 
-    private static void isEmpty(String what, TinyCache x) {
-        Check.counts(what, x, new int[13]);
-        for (int p = 0; p < 96; p++) {
-            Check.page(what, x, p);
+    private static Counted crashed() {
+        Counted x = Drive.withSetPage(8, K[0], K[1]);
+        x.get(K[0]);
+        x.delete(K[1]);
+        Drive.put(x, K[2], 8, 4711);
+        x.crash();
+        return x;
+    }
+
+    private static Counted openAgain() {
+        Counted x = crashed();
+        Check.due("none in the index", x.open(), 0);
+        return x;
+    }
+
+    private static void isClosed() {
+        Counted x = crashed();
+        Check.throwsState("crash closed", x::crash);
+        Check.throwsState("close closed", x::close);
+        Check.throwsState("put closed", () -> x.put(1, 1));
+        Check.throwsState("get closed", () -> x.get(K[0]));
+        Check.throwsState("delete closed", () -> x.delete(K[0]));
+        Check.throwsState("where closed", () -> x.where(K[0]));
+        Check.throwsNothing("open", x::open);
+    }
+
+    private static void isEmpty() {
+        Check.counts("closed", crashed(), new int[13]);
+        Check.flash("closed", Promise11CrashTest::crashed, new int[96][0]);
+        Check.counts("open", openAgain(), new int[13]);
+        Check.flash("open", Promise11CrashTest::openAgain, new int[96][0]);
+        Check.throwsIndex("got(0) closed", () -> crashed().got(0));
+        Check.throwsIndex("got(0) open", () -> openAgain().got(0));
+        Counted x = openAgain();
+        for (long key : new long[] {K[0], K[1], K[2], Drive.FILLER}) {
+            Check.due("nowhere", x.where(key), 0);
+            Check.due("gone", x.get(key), 0);
+            Check.due("gone", x.delete(key), false);
         }
-        Check.throwsIndex("got(0)", () -> x.got(0));
+    }
+
+    private static void bufferIsKept() {
+        Counted x = crashed();
+        for (int i = 0; i < 8; i++) {
+            Check.due("word " + i, x.word(i, 0), 4711 + i);
+        }
+        Counted y = openAgain();
+        y.put(1, 8);
+        y.get(1);
+        Check.due("it is what is put", y.got(7), 4718);
+    }
+
+    // A closed one keeps all that it has, though crash() was called.
+    private static void refusedWhenClosed() {
+        Counted x = Drive.withSetPage(8, K[0], K[1]);
+        x.get(K[0]);
+        x.close();
+        Check.throwsState("crash closed", x::crash);
+        Check.due("what was got is there", x.got(0), (int) K[0] * 10);
+        Check.due("its flash is there", x.flash(3, 0), 8);
+        Check.due("its counts are there", x.count(0), 9);
+        Check.due("its index is there", x.open(), 1);
+        Check.due("its set's page is there", x.where(K[1]), 2);
+    }
+
+    private static void noFilterIsLeft() {
+        Counted x = openAgain();
+        Check.due("gone", x.get(K[0]), 0);
+        Check.due("nothing read", x.count(9), 0);
+        Check.due("gone", x.delete(K[0]), false);
+        Check.due("nothing read", x.count(9), 0);
     }
 
     // The log is written from its first page on again, and no segment of it counts as written before.
-    private static void beginsAgain(TinyCache x, long[] k) {
-        Drive.put(x, k[0], 8, 100);
-        Drive.put(x, k[2], 8, 200);
+    private static void beginsAgain() {
+        Counted x = openAgain();
+        Drive.put(x, K[0], 8, 100);
+        Drive.put(x, K[2], 8, 200);
         Drive.fill(x, 1);
         Check.due("the first page", x.flash(64, 3), 100);
         Drive.fill(x, 63);
@@ -41,6 +98,6 @@ public final class Promise11CrashTest {
         Check.due("both and the filler", x.count(11), 3);
         Drive.fill(x, 1);
         Check.due("emptied now", x.count(1), 1);
-        Check.due("moved", x.where(k[2]), 2);
+        Check.due("moved", x.where(K[2]), 2);
     }
 }
