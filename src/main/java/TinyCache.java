@@ -230,8 +230,9 @@ public final class TinyCache {
         if (readFromSet(key) == null) {
             return false;
         }
+        sets[setNumber(mix(key))].remove(key);
         counts[whatIsCounted]++;
-        return sets[setNumber(mix(key))].remove(key);
+        return true;
     }
 
     private static long mix(long key) {
@@ -319,13 +320,11 @@ public final class TinyCache {
             return at == NONE ? null : items[at];
         }
 
-        boolean remove(long key) {
+        void remove(long key) {
             int at = placeOf(key);
-            if (at == NONE) {
-                return false;
+            if (at != NONE) {
+                removeAt(at);
             }
-            removeAt(at);
-            return true;
         }
 
         /** Drops the marked, or else the unmarked, until so many words more fit in: how many. */

@@ -57,6 +57,21 @@ final class Check {
         }
     }
 
+    /** A page that Drive.withSetPage(1, keys) made, without one of its objects. */
+    static void pageOfAllBut(String what, Face x, int p, long[] keys, int out) {
+        int[] want = new int[(keys.length - 1) * 4];
+        int at = 0;
+        for (int i = 0; i < keys.length; i++) {
+            if (i != out) {
+                want[at] = 1;
+                want[at + 2] = (int) keys[i];
+                want[at + 3] = (int) keys[i] * 10;
+                at += 4;
+            }
+        }
+        page(what + ", all but number " + out, x, p, want);
+    }
+
     /** All pages of flash, four of each cache that is made: more would be too many calls. */
     static void flash(String what, Supplier<? extends Face> made, int[][] want) {
         for (int first = 0; first < want.length; first += 4) {

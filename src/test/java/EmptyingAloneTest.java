@@ -19,6 +19,7 @@ public final class EmptyingAloneTest {
         gotBeforeItCame();
         aMarkIsNotGot();
         lastOfThePage();
+        oneOfEight();
         bitOfAnotherStays();
         Check.end();
     }
@@ -250,6 +251,16 @@ public final class EmptyingAloneTest {
         int read = x.count(9);
         Check.due("nowhere", x.get(K[0]), 0);
         Check.due("the filter is empty", x.count(9), read);
+    }
+
+    private static void oneOfEight() {
+        long[] eight = Keys.ofSet(SET, 8);
+        for (int out = 0; out < 8; out++) {
+            Counted x = Drive.withSetPage(1, eight);
+            x.put(eight[out], 8);
+            Drive.fillSegments(x, 18);
+            Check.pageOfAllBut("dropped", x, SET, eight, out);
+        }
     }
 
     // Both have the same bit: it stays in the filter as long as one of them is in the page.

@@ -11,6 +11,7 @@ public final class EmptyingTwosTest {
         markedGoNext();
         gatheredGoLast();
         marksAreCleared();
+        gotInTheLogIsNoMark();
         exactlyFull();
         oneWordTooMany();
         droppedUntilAllFitAndNoLonger();
@@ -19,6 +20,7 @@ public final class EmptyingTwosTest {
         oldValueOfOneThatIsDropped();
         gotOnesAreDroppedLikeOthers();
         eightAndNineSmallOnes();
+        eightSmallOnesAndMore();
         allOfTheLogInOneSet();
         newestPlaceIsItsOrder();
         firstAndLastSet();
@@ -131,9 +133,8 @@ public final class EmptyingTwosTest {
         x.get(K[0]);
         Drive.put(x, K[2], 1, 0);
         Drive.put(x, K[3], 1, 0);
-        x.get(K[2]);
         Drive.fillSegments(x, 18);
-        // 24 words are there, none marked: what was got in the log comes without a mark, too.
+        // 24 words are there, none marked.
         Drive.put(x, K[4], 8, 0);
         Drive.put(x, K[5], 8, 0);
         Drive.fillSegments(x, 27);
@@ -142,6 +143,18 @@ public final class EmptyingTwosTest {
         Check.due("dropped", x.where(K[0]), 0);
         Check.due("dropped", x.where(K[1]), 0);
         Check.due("left", x.where(K[2]), 2);
+    }
+
+    private static void gotInTheLogIsNoMark() {
+        Counted x = new Counted();
+        Drive.putAll(x, 8, K[0], K[1]);
+        x.get(K[0]);
+        Drive.fillSegments(x, 9);
+        Drive.putAll(x, 8, K[2], K[3]);
+        Drive.fillSegments(x, 18);
+        // 22 words and 22 more: both go, and one of them was got before it came into the page.
+        Check.due("without marks", x.count(5), 2);
+        Check.due("with marks", x.count(6), 0);
     }
 
     private static void exactlyFull() {
@@ -277,6 +290,19 @@ public final class EmptyingTwosTest {
             Check.due(n + " gathered, the last of the page", x.flash(SET, 30), (int) keys[n - 1]);
             Check.due(n + " gathered, one page is read and written", x.count(1) + x.count(9), 2);
         }
+    }
+
+    private static void eightSmallOnesAndMore() {
+        Counted x = Drive.withSetPage(1, K);
+        x.get(K[0]);
+        long[] more = Keys.ofSet(SET, 10);
+        Drive.putAll(x, 1, more[8], more[9]);
+        Drive.fillSegments(x, 18);
+        long[] order = {K[0], K[3], K[4], K[5], K[6], K[7], more[8], more[9]};
+        for (int i = 0; i < 8; i++) {
+            Check.due("eight are left", x.flash(SET, i * 4 + 2), (int) order[i]);
+        }
+        Check.due("two without marks are dropped", x.count(5), 2);
     }
 
     // 32 pages and the open one, with eight objects each: the last eight are left.

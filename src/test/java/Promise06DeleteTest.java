@@ -7,6 +7,7 @@ public final class Promise06DeleteTest {
         inTheLogWithAnothersBit();
         filterWithoutTheKey();
         othersKeepTheirMarks();
+        oneOfEight();
         lastOfThePage();
         putAgain();
         closed();
@@ -93,6 +94,15 @@ public final class Promise06DeleteTest {
         Check.due("the marked one stays", y.where(k[1]), 2);
         Check.due("unmarked", y.count(5), 1);
         Check.due("marked", y.count(6), 0);
+    }
+
+    private static void oneOfEight() {
+        long[] eight = Keys.ofSet(20, 8);
+        for (int out = 0; out < 8; out++) {
+            Counted x = Drive.withSetPage(1, eight);
+            Check.due("one of eight", x.delete(eight[out]), true);
+            Check.pageOfAllBut("deleted", x, 20, eight, out);
+        }
     }
 
     private static void lastOfThePage() {

@@ -8,6 +8,8 @@ public final class Promise11CrashTest {
         bufferIsKept();
         refusedWhenClosed();
         noFilterIsLeft();
+        everyPageIsWiped();
+        noSetHasAnObjectLeft();
         beginsAgain();
         Check.end();
     }
@@ -83,6 +85,45 @@ public final class Promise11CrashTest {
         Check.due("nothing read", x.count(9), 0);
         Check.due("gone", x.delete(K[0]), false);
         Check.due("nothing read", x.count(9), 0);
+    }
+
+    /** Each set's page has two objects, and each page of the log is written. */
+    private static Counted fullFlash() {
+        Counted x = new Counted();
+        for (int set = 0; set < 64; set++) {
+            Drive.putAll(x, 1, Keys.ofSet(set, 2));
+        }
+        for (int i = 0; i < 97; i++) {
+            x.put(Drive.FILLER, 8);
+        }
+        return x;
+    }
+
+    private static Counted fullFlashCrashed() {
+        Counted x = fullFlash();
+        x.crash();
+        return x;
+    }
+
+    private static void everyPageIsWiped() {
+        Counted x = fullFlash();
+        for (int p = 0; p < 96; p++) {
+            Check.due("page " + p + " has an object", x.flash(p, 0) != 0, true);
+        }
+        Check.flash("every page had an object", Promise11CrashTest::fullFlashCrashed, new int[96][0]);
+    }
+
+    // What was in the index before is not there to be gathered with what comes now.
+    private static void noSetHasAnObjectLeft() {
+        Counted x = new Counted();
+        x.put(K[0], 8);
+        x.crash();
+        x.open();
+        x.put(K[1], 8);
+        x.get(K[1]);
+        Drive.fillSegments(x, 9);
+        Check.due("one alone", x.count(10), 1);
+        Check.due("none is gathered", x.count(4), 0);
     }
 
     // The log is written from its first page on again, and no segment of it counts as written before.
