@@ -4,8 +4,7 @@
  * never in the segment that is emptied.
  */
 final class Drive {
-    static final int FILLER_SET = 63;
-    static final long FILLER = Keys.ofSet(FILLER_SET);
+    static final long FILLER = Keys.ofSet(63);
     /** The thirteen counts behind everything(). */
     static final int[] EVERYTHING = {16, 3, 1, 1, 7, 1, 1, 1, 3, 7, 1, 1, 11};
 

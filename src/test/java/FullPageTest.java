@@ -8,9 +8,9 @@ public final class FullPageTest {
         }
         fullPageIsWrittenWithTheNext();
         // Two put anew of 8 words have 22 words; the third has 3 words more than its value.
-        behindThreePutAnew(3, 1, 32);
-        behindThreePutAnew(4, 1, 4);
-        behindThreePutAnew(7, 1, 4);
+        oneWordBehindPutAnew(3, 32);
+        oneWordBehindPutAnew(4, 4);
+        oneWordBehindPutAnew(7, 4);
         thirdPutAnewDoesNotFit();
         oneThatFitsBehindPutAnew();
         segmentAfterSegment();
@@ -82,14 +82,14 @@ public final class FullPageTest {
         return x;
     }
 
-    private static void behindThreePutAnew(int third, int n, int words) {
-        String what = n + " behind 8, 8, " + third + " put anew";
+    private static void oneWordBehindPutAnew(int third, int words) {
+        String what = "1 behind 8, 8, " + third + " put anew";
         Counted x = withThreeGot(third);
         int before = x.flash(65, 2);
         x.put(999, 8);
         Check.due(what + ": 8 never fits", x.count(12), 11);
         Counted y = withThreeGot(third);
-        y.put(999, n);
+        y.put(999, 1);
         Check.due(what, y.count(12), words);
         Check.due(what + ": put anew", y.count(10), 3);
         boolean written = words < 22;

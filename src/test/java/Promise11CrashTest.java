@@ -93,9 +93,7 @@ public final class Promise11CrashTest {
         for (int set = 0; set < 64; set++) {
             Drive.putAll(x, 1, Keys.ofSet(set, 2));
         }
-        for (int i = 0; i < 97; i++) {
-            x.put(Drive.FILLER, 8);
-        }
+        Drive.fill(x, 97);
         return x;
     }
 
